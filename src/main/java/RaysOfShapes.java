@@ -123,40 +123,45 @@ public final class RaysOfShapes {
     }
 
     public int says(int s, int kind) {
-        if (!isShelf(s) || !isBetween(kind, SHAPE, SHELL)) {
-            return refused(BAD);
+        int refusal = saysRefusal(s, kind);
+        if (refusal != 0) {
+            return refused(refusal);
         }
-        int held = shelves.heldBy(s);
-        if (held == NONE) {
-            return refused(NOTHING);
-        }
-        int shape = held - HELD_SHAPE;
-        if (!isShape(shape) || !Kinds.isUnder(table.kindOf(shape), kind)) {
-            return refused(OTHER);
-        }
-        return saidAs(kind, shape);
-    }
-
-    private int saidAs(int kind, int shape) {
+        int shape = shelves.heldBy(s) - HELD_SHAPE;
+        int p = table.firstOf(shape);
+        int q = table.secondOf(shape);
         switch (kind) {
             case SHAPE:
                 return table.deepOf(shape);
             case SOLID:
                 return placesOf(shape).size();
             case OVER:
-                return table.firstOf(shape);
+                return p;
             case PAIR:
-                return table.secondOf(shape);
+                return q;
             case CHANGE:
-                return placesOf(shape).size() - placesOf(table.firstOf(shape)).size();
+                return placesOf(shape).size() - placesOf(p).size();
             case UNION:
             case COMMON:
-                return placesOf(table.firstOf(shape)).sizeOfOne(placesOf(table.secondOf(shape)));
+                return placesOf(p).sizeOfOne(placesOf(q));
             case CUT:
-                return placesOf(table.firstOf(shape)).sizeOfBoth(placesOf(table.secondOf(shape)));
+                return placesOf(p).sizeOfBoth(placesOf(q));
             default:
                 return saidOfNumbers(kind, shape);
         }
+    }
+
+    /** What refuses a SHELF to be taken for one with a SHAPE of a KIND, or 0. */
+    private int saysRefusal(int s, int kind) {
+        if (!isShelf(s) || !isBetween(kind, SHAPE, SHELL)) {
+            return BAD;
+        }
+        int held = shelves.heldBy(s);
+        if (held == NONE) {
+            return NOTHING;
+        }
+        int shape = held - HELD_SHAPE;
+        return isShape(shape) && Kinds.isUnder(table.kindOf(shape), kind) ? 0 : OTHER;
     }
 
     private int saidOfNumbers(int kind, int shape) {
@@ -755,15 +760,15 @@ public final class RaysOfShapes {
     }
 
     private static boolean isShelf(int s) {
-        return isBetween(s, 0, SHELVES - 1);
+        return s >= 0 && s < SHELVES;
     }
 
     private static boolean isPlace(int place) {
-        return isBetween(place, 0, PLACES - 1);
+        return place >= 0 && place < PLACES;
     }
 
     private static boolean isAxis(int axis) {
-        return isBetween(axis, 0, AXES - 1);
+        return axis >= 0 && axis < AXES;
     }
 
     private static boolean isNear(int v) {
@@ -834,11 +839,11 @@ public final class RaysOfShapes {
         }
 
         static boolean isSolid(int kind) {
-            return isBetween(kind, BALL, HALF);
+            return kind >= BALL && kind <= HALF;
         }
 
         static boolean isPair(int kind) {
-            return isBetween(kind, UNION, BLEND);
+            return kind >= UNION && kind <= BLEND;
         }
 
         static int numbersOf(int kind) {
@@ -1012,7 +1017,8 @@ public final class RaysOfShapes {
         void changeWith(Fraction f) {
             long n = num;
             long d = den;
-            take(f);
+            num = f.num;
+            den = f.den;
             f.num = n;
             f.den = d;
         }
@@ -1055,36 +1061,32 @@ public final class RaysOfShapes {
             size = n;
         }
 
-        private static boolean isSlot(int s) {
-            return isBetween(s, 0, SLOTS - 1);
-        }
-
         int kindOf(int s) {
-            return isSlot(s) ? kind[s] : NONE;
+            return s >= 0 && s < SLOTS ? kind[s] : NONE;
         }
 
         int firstOf(int s) {
-            return isSlot(s) ? first[s] : NONE;
+            return s >= 0 && s < SLOTS ? first[s] : NONE;
         }
 
         int secondOf(int s) {
-            return isSlot(s) ? second[s] : NONE;
+            return s >= 0 && s < SLOTS ? second[s] : NONE;
         }
 
         int deepOf(int s) {
-            return isSlot(s) ? deep[s] : 0;
+            return s >= 0 && s < SLOTS ? deep[s] : 0;
         }
 
         int solidsOf(int s) {
-            return isSlot(s) ? solids[s] : 0;
+            return s >= 0 && s < SLOTS ? solids[s] : 0;
         }
 
         private int blendsOf(int s) {
-            return isSlot(s) ? blends[s] : 0;
+            return s >= 0 && s < SLOTS ? blends[s] : 0;
         }
 
         int numberOf(int s, int i) {
-            return isSlot(s) && isBetween(i, 0, NUMBERS - 1) ? numbers[s * NUMBERS + i] : 0;
+            return s >= 0 && s < SLOTS && i >= 0 && i < NUMBERS ? numbers[s * NUMBERS + i] : 0;
         }
 
         boolean isTooDeep(int kindOver, int p, int q) {
@@ -1100,7 +1102,7 @@ public final class RaysOfShapes {
         }
 
         void write(int slot, int kindNew, int p, int q, int[] numbersNew) {
-            if (!isSlot(slot)) {
+            if (slot < 0 || slot >= SLOTS) {
                 return;
             }
             kind[slot] = kindNew;
@@ -1356,10 +1358,8 @@ public final class RaysOfShapes {
             if (q != p) {
                 find(table, q, row, level + 1);
             }
-            join(table, s, level, lows[level + 1], highs[level + 1]);
-        }
-
-        private void join(Table table, int s, int level, Fraction low, Fraction high) {
+            Fraction low = lows[level + 1];
+            Fraction high = highs[level + 1];
             switch (table.kindOf(s)) {
                 case UNION:
                     lows[level].takeLesser(low);

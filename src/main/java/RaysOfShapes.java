@@ -61,6 +61,8 @@ public final class RaysOfShapes {
     private final int[] enoughAt = new int[MOST_N + 1];
     private final int[] refusals = new int[5];
     private boolean isKept;
+    /** SHAPES below this are still those that were kept, and what was found of them holds. */
+    private int keptShapes;
 
     public RaysOfShapes() {
     }
@@ -311,6 +313,7 @@ public final class RaysOfShapes {
             return refused(STUCK);
         }
         table.resize(table.size() - 1);
+        keptShapes = Math.min(keptShapes, table.size());
         shelves.keepShapesBelow(table.size());
         return table.size();
     }
@@ -667,6 +670,7 @@ public final class RaysOfShapes {
         keptTable.takeFrom(table);
         keptCarved.takeFrom(carved);
         isKept = true;
+        keptShapes = table.size();
         return 1;
     }
 
@@ -676,7 +680,8 @@ public final class RaysOfShapes {
         }
         table.takeFrom(keptTable);
         carved.takeFrom(keptCarved);
-        looker.forgetFrom(0);
+        looker.forgetFrom(keptShapes);
+        keptShapes = table.size();
         shelves.keepShapesBelow(table.size());
         return 1;
     }

@@ -71,6 +71,7 @@ public final class RaysOfShapesPromises {
         due("holds(0)", x.holds(0), 0);
         due("holds(7)", x.holds(7), 4);
         due("set(7, 39, 1)", x.set(7, 39, 1), 1);
+        due("element(7, 39)", x.element(7, 39), 1);
         due("row(7, 3, 40)", x.row(7, 3, 40), 1);
         due("element(7, 39)", x.element(7, 39), 0);
         due("row(-1, 0, 0)", x.row(-1, 0, 0), BAD);
@@ -541,6 +542,9 @@ public final class RaysOfShapesPromises {
         due("grown(17, 0, 0, 1)", x.grown(17, 0, 0, 1), 5);
         due("grown(17, 0, -1, 1)", x.grown(17, 0, -1, 1), BAD);
         due("grown(17, 0, 99, 9)", x.grown(17, 0, 99, 9), 6);
+        due("grown(17, 0, 100, 1)", x.grown(17, 0, 100, 1), BAD);
+        due("grown(17, 0, 0, 0)", x.grown(17, 0, 0, 0), BAD);
+        due("grown(17, 0, 0, 10)", x.grown(17, 0, 0, 10), BAD);
         due("grown(15, 0, 0, 1)", x.grown(15, 0, 0, 1), BAD);
         due("grown(18, 0, 0, 1)", x.grown(18, 0, 0, 1), BAD);
         due("grown(17, 7, 0, 1)", x.grown(17, 7, 0, 1), BAD);
@@ -1245,6 +1249,34 @@ public final class RaysOfShapesPromises {
         due("status(2)", x.status(2), 64);
     }
 
+    /** What was found of SHAPES by number is found again, when others have had those numbers. */
+    private static void backToOthers() {
+        for (int dropped = 1; dropped <= 3; dropped++) {
+            RaysOfShapes x = withSolids();
+            int[] first = {1, 64, 2048};
+            x.image();
+            for (int again = 0; again < 2; again++) {
+                for (int i = 0; i < 3; i++) {
+                    due("count(" + i + ", 0)", x.count(i, 0), first[i]);
+                }
+                for (int i = 0; i < dropped; i++) {
+                    x.drop();
+                }
+                for (int i = 3 - dropped; i < 3; i++) {
+                    x.box(0, 0, 0, i + 4, 0, 0);
+                    due("count(" + i + ", 0)", x.count(i, 0), i + 5);
+                }
+                due("back()", x.back(), 1);
+                x.half(0, 0, 0, -again);
+                due("count(3, 0)", x.count(3, 0), again == 0 ? 4096 : 0);
+                due("back()", x.back(), 1);
+            }
+            for (int i = 0; i < 3; i++) {
+                due("count(" + i + ", 0)", x.count(i, 0), first[i]);
+            }
+        }
+    }
+
     private static void status() {
         RaysOfShapes x = withSolids();
         x.feed(1);
@@ -1317,7 +1349,7 @@ public final class RaysOfShapesPromises {
             case 41: block(); break;
             case 44: days(); break;
             case 45: seed(); break;
-            case 46: imageAndBack(); break;
+            case 46: imageAndBack(); backToOthers(); break;
             case 48: status(); break;
             default: break;
         }

@@ -184,7 +184,9 @@ public final class RaysOfShapesMutants extends TreeScanner<Void, Void> {
         for (int i = 0; i + 1 < tree.getArguments().size(); i++) {
             Tree one = tree.getArguments().get(i);
             Tree other = tree.getArguments().get(i + 1);
-            changes.add(new Change(from(one), to(other), textOf(other) + ", " + textOf(one)));
+            if (!textOf(one).equals(textOf(other))) {
+                changes.add(new Change(from(one), to(other), textOf(other) + ", " + textOf(one)));
+            }
         }
         return super.visitMethodInvocation(tree, v);
     }
